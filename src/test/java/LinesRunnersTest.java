@@ -1,0 +1,144 @@
+/** Promises 20 to 24: LINES, WHICH IT IS, RUNNERS, THE DRIVER's WAIT, THREE RUN. */
+final class LinesRunnersTest {
+    private LinesRunnersTest() {
+    }
+
+    public static void main(String[] args) {
+        lines();
+        which();
+        runners();
+        waits();
+        three();
+        Due.end();
+    }
+
+    private static void lines() {
+        RunForIt x = new RunForIt();
+        int[][] right = {{0, 0, 0, 0, 0}, {7, 3, 16777215, 99, 99}};
+        for (int[] l : right) {
+            Due.is("line " + l[0], true, x.line(l[0], l[1], l[2], l[3], l[4]));
+        }
+        int[][] wrong = {{-1, 0, 0, 0, 0}, {8, 0, 0, 0, 0}, {3, -1, 0, 0, 0}, {3, 4, 0, 0, 0}, {3, 0, -1, 0, 0},
+            {3, 0, 16777216, 0, 0}, {3, 0, 0, -1, 0}, {3, 0, 0, 100, 0}, {3, 0, 0, 0, -1}, {3, 0, 0, 0, 100}};
+        for (int[] l : wrong) {
+            Due.is("line " + l[0], false, x.line(l[0], l[1], l[2], l[3], l[4]));
+        }
+        Due.is("told", 1, x.which(7, 3, 23, 99, 1));
+        Due.is("not told", -1, x.which(3, 3, 23, 99, 1));
+    }
+
+    private static void which() {
+        RunForIt x = new RunForIt();
+        x.line(0, 1, 3, 10, 30);
+        x.line(1, 1, 1 << 23 | 2, 20, 10);
+        x.line(2, 2, 16777215, 0, 99);
+        x.line(3, 1, 2, 20, 20);
+        x.line(4, 1, 4, 0, 0);
+        Due.is("30 of 60", 1, x.which(0, 1, 1, 20, 0));
+        Due.is("30 of 60", 2, x.which(0, 1, 1, 20, 1));
+        Due.is("10 of 60", 1, x.which(1, 1, 1, 99, 0));
+        Due.is("10 of 60", 6, x.which(1, 1, 1, 99, 1));
+        Due.is("20 of 60", 3, x.which(3, 1, 1, 20, 1));
+        Due.is("read from 19", 0, x.which(1, 1, 1, 19, 0));
+        Due.is("read from 19", 1, x.which(1, 1, 1, 19, 1));
+        Due.is("the only one from 19", 1, x.which(0, 1, 1, 19, 0));
+        Due.is("from so far it can't be read", 1, x.which(0, 1, 1, 10, 0));
+        Due.is("all can be read", -2, x.which(0, 1, 1, 9, 0));
+        Due.is("in hour 23", 1, x.which(1, 1, 23, 20, 0));
+        Due.is("another COLOUR", 0, x.which(0, 2, 1, 20, 0));
+        Due.is("that COLOUR", 1, x.which(2, 2, 1, 0, 0));
+        Due.is("none of the COLOUR", -2, x.which(0, 3, 1, 20, 0));
+        Due.is("never there", -2, x.which(4, 1, 2, 20, 0));
+        x.line(0, 1, 2, 10, 10);
+        Due.is("in place of the one before", 4, x.which(0, 1, 1, 20, 1));
+        int[][] wrong = {{-1, 0, 0, 0, 0}, {8, 0, 0, 0, 0}, {5, 1, 1, 20, 0}, {0, -1, 0, 0, 0}, {0, 4, 0, 0, 0},
+            {0, 0, -1, 0, 0}, {0, 0, 24, 0, 0}, {0, 0, 0, -1, 0}, {0, 0, 0, 100, 0}, {0, 1, 1, 20, -1}, {0, 1, 1, 20, 2}};
+        for (int[] w : wrong) {
+            Due.is("which", -1, x.which(w[0], w[1], w[2], w[3], w[4]));
+        }
+    }
+
+    private static void runners() {
+        RunForIt x = new RunForIt();
+        int[][] wrong = {{-1, 1, 1, 0}, {10, 1, 1, 0}, {0, 0, 1, 0}, {0, 121, 1, 0}, {0, 1, 0, 0}, {0, 1, 41, 0},
+            {0, 1, 1, -1}, {0, 1, 1, 1000}};
+        for (int[] w : wrong) {
+            Due.is("runner", false, x.runner(w[0], w[1], w[2], w[3]));
+        }
+        Due.is("none is told", 0, x.wait(0, 120));
+        Due.is("runner", true, x.runner(9, 120, 40, 999));
+        Due.is("runner", true, x.runner(0, 1, 1, 0));
+        Due.is("told", 999, x.wait(0, 120));
+        Due.is("runner", true, x.runner(9, 120, 1, 1));
+        Due.is("in place of the one before", 1, x.wait(0, 120));
+    }
+
+    private static void waits() {
+        RunForIt x = new RunForIt();
+        x.runner(0, 10, 5, 30);
+        x.runner(1, 50, 10, 20);
+        x.runner(2, 51, 10, 31);
+        x.runner(3, 120, 1, 999);
+        Due.is("nobody", 0, x.wait(5, 0));
+        Due.is("not yet", 0, x.wait(5, 9));
+        Due.is("two STEPS", 20, x.wait(5, 10));
+        Due.is("and five", 15, x.wait(5, 50));
+        Due.is("and six, rounded up", 16, x.wait(5, 51));
+        Due.is("all", 16 + 999 - 600, x.wait(5, 120));
+        Due.is("all of them", 120, x.wait(5, -1));
+        Due.is("only the first", 10, x.wait(9, -1));
+        Due.is("dear", 0, x.wait(16, -1));
+        Due.is("loss", 30 - 32, x.wait(16, 10));
+        Due.is("for nothing", 1080, x.wait(0, 120));
+        Due.is("at the dearest", 1080 - 999 * (2 + 5 + 6 + 120), x.wait(999, 120));
+        Due.is("of like ones the fewest", 0, x.wait(15, -1));
+        x.runner(3, 120, 40, 15);
+        Due.is("of like ones the fewest", 10, x.wait(5, -1));
+        x.runner(3, 120, 40, 19);
+        Due.is("of like ones the fewest", 10, x.wait(5, -1));
+        x.runner(3, 120, 40, 20);
+        Due.is("one more", 120, x.wait(5, -1));
+        for (int what : new int[] {-2, 121}) {
+            Due.is("wait", -1000000000, x.wait(5, what));
+        }
+        for (int costs : new int[] {-1, 1000}) {
+            Due.is("wait", -1000000000, x.wait(costs, 5));
+            Due.is("wait", -1000000000, x.wait(costs, -1));
+        }
+    }
+
+    private static void three(RunForIt x, int pence, int takes, int worth, int rows, int first) {
+        String told = "three " + pence + " " + takes + " " + worth;
+        Due.is(told + ": rows", rows, x.three(pence, takes, worth, 0));
+        Due.is(told + ": the first", first, x.three(pence, takes, worth, 1));
+    }
+
+    /** Rows in which two or three run: 3, 5, 6 and 7. */
+    private static void three() {
+        RunForIt x = new RunForIt();
+        // it takes three: who leaves loses all; a third one gains by running
+        three(x, 5, 3, 20, 1, 7);
+        three(x, 20, 3, 20, 1, 7);
+        three(x, 21, 3, 20, 0, -2);
+        // it takes two: of two neither leaves; the third one gains by running if half is more than pence
+        three(x, 5, 2, 20, 1, 7);
+        three(x, 10, 2, 20, 4, 3);
+        three(x, 11, 2, 20, 3, 3);
+        three(x, 21, 2, 20, 0, -2);
+        three(x, 11, 2, 21, 4, 3);
+        three(x, 12, 2, 21, 3, 3);
+        // it takes one
+        three(x, 9, 1, 20, 1, 7);
+        three(x, 10, 1, 20, 4, 3);
+        three(x, 11, 1, 20, 0, -2);
+        three(x, 0, 1, 0, 4, 3);
+        three(x, 1, 1, 0, 0, -2);
+        three(x, 0, 3, 0, 4, 3);
+        int[][] wrong = {{-1, 1, 1, 0}, {100, 1, 1, 0}, {1, 0, 1, 0}, {1, 4, 1, 0}, {1, 1, -1, 0}, {1, 1, 100, 0},
+            {1, 1, 1, -1}, {1, 1, 1, 2}};
+        for (int[] w : wrong) {
+            Due.is("three", -1, x.three(w[0], w[1], w[2], w[3]));
+        }
+        three(x, 99, 3, 99, 1, 7);
+    }
+}
