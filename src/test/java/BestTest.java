@@ -13,6 +13,7 @@ final class BestTest {
         stepOfTheWorths();
         greatest();
         changes();
+        changesBehindMore();
         point();
         more();
         wrongInputs();
@@ -129,6 +130,24 @@ final class BestTest {
         Due.is("on steps v is 35", 370200 - 15 * 7800, x.best(0, 40, 9, false, false, 0));
     }
 
+    /** What is known without waves or with longer BOARDING does not hold for BEST behind a change. */
+    private static void changesBehindMore() {
+        RunForIt x = new RunForIt();
+        x.steps(2);
+        Due.queue(x, "a");
+        for (int i = 0; i < 12; i++) {
+            int worth = 50 - i % 2;
+            Due.law(x, BestTest.LAW.replace("v50", "v" + worth));
+            Due.is("VALUE", 370200 - 7800 * (i % 2), x.best(0, 40, 9, false, false, 0));
+            if (i % 3 > 0) {
+                Due.is("a WAVE", 118000 - 2000 * (i % 2), x.more(40, 9, false, false, 0));
+            }
+            if (i % 4 > 0) {
+                Due.is("a STEP more", 129800 - 2200 * (i % 2), x.more(40, 9, false, false, 1));
+            }
+        }
+    }
+
     private static void point() {
         RunForIt x = new RunForIt();
         x.steps(2);
@@ -149,6 +168,9 @@ final class BestTest {
         Due.law(x, "y99(k=3&a=1&d=99|k=2&d=98);v5(1=1)");
         Due.is("waving, too", 99, x.point(1, 9, false, false, 1));
         Due.is("not from above it", 99, x.point(1, 9, false, false, 0));
+        Due.law(x, "y1(k=3);v5(1=1)");
+        Due.is("from one YARD", 1, x.point(1, 9, false, false, 0));
+        Due.is("from one YARD", 1, x.point(1, 9, false, false, 1));
         Due.law(x, "y99(k=2&d=98);v5(1=1)");
         Due.is("quickly is no running", -2, x.point(1, 9, false, false, 1));
     }

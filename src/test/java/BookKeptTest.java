@@ -154,6 +154,10 @@ final class BookKeptTest {
         Due.is("no more than are asked", -1, x.check(2));
         x.feed(100 + (1 << 24), 0, 0, 0, 0);
         Due.is("four bytes", 0, x.check(1));
+        for (int bit = 0; bit < 32; bit++) {
+            x.feed(100 ^ 1 << bit, 0, 0, 0, 0);
+            Due.is("bit " + bit, 0, x.check(1));
+        }
         x.feed(-1, 0, 0, 0, 0);
         Due.is("four bytes", 0, x.check(3));
         x.feed(100, 101, 102, 1, 104);

@@ -10,6 +10,7 @@ final class CornerBlindTest {
         gone();
         seenAsItWas();
         noBreath();
+        worths();
         bestOfThem();
         blind();
         leastRow();
@@ -71,6 +72,22 @@ final class CornerBlindTest {
         Due.is("sees it first", -20000000, x.corner(90, 3, 80, 3));
     }
 
+    /** v, m and l know neither pace nor wave. */
+    private static void worths() {
+        RunForIt x = new RunForIt();
+        x.steps(1);
+        Due.law(x, "y5(1=1);we/9*9(1=1);vk+a+6(1=1);mk+a+7(1=1);lk+a+8(1=1);gk+a(d=3);g10(1=1)");
+        Due.is("v", 600, x.corner(5, 0, 1, 7));
+        Due.is("m", -700, x.corner(6, 0, 1, 7));
+        Due.is("m ahead of STEP n", -700, x.corner(8, 0, 1, 7));
+        Due.law(x, "w1(1=1);lk+a+8(1=1)");
+        Due.is("l", -800, x.corner(8, 0, 1, 7));
+        Due.law(x, "y5(1=1);s1(1=1);v10+z*20(1=1);m20(1=1)");
+        x.steps(2);
+        // SEEN 30 by one tenth; else in the last STEP 30 by one tenth, 10 by nine
+        Due.is("one tenth", 138000, x.corner(10, 0, 5, 1));
+    }
+
     private static void bestOfThem() {
         RunForIt x = new RunForIt();
         x.steps(2);
@@ -127,6 +144,9 @@ final class CornerBlindTest {
         for (int i = 0; i < 4; i++) {
             Due.is("least row, place " + i, row[i], x.blind(10, 0, false, false, i));
         }
+        Due.law(x, "y5(k=3&a=1);v9(1=1);l1(1=1)");
+        Due.is("the last ACTION", 7, x.blind(20, 0, false, false, 3));
+        Due.is("four times", 900000000L, x.blind(20, 0, false, false, 20));
         for (int i = 0; i < 4; i++) {
             Due.is("caught ahead of STEP 0", 0, x.blind(0, 0, false, false, i));
         }

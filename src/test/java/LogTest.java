@@ -203,6 +203,11 @@ final class LogTest {
             Due.is("BEST lets it go, and lets it go behind", i < 2 ? 0 : 11000000, x.wrong(i, 0));
         }
         Due.is("the last is the WORST", 2, x.wrong(0, 1));
+        Due.law(x, "y3(k=2);v9(1=1);m1(d>3);m9(1=1)");
+        Due.rule(x, 0, "a1(t=1);a2(1=1)");
+        x.drawn(0, 9, 0, false, false);
+        Due.is("the WORST is STEP 1", 1, x.wrong(0, 1));
+        Due.rule(x, 0, "a1(1=1)");
         Due.law(x, "y3(k=2);v9(1=1)");
         x.drawn(0, 9, 0, false, false);
         Due.is("STEP 0", 9000000, x.wrong(0, 0));

@@ -10,6 +10,7 @@ final class RulesTest {
         actions();
         shares();
         seenOnTheWay();
+        worths();
         near();
         wrongInputs();
         Due.end();
@@ -85,6 +86,19 @@ final class RulesTest {
         // 4 tenths: caught; else 5 tenths MISSED, else let go
         by("SEEN or not", x, 0, 8, 0, 100L * (40 * 50 - 30 * 20 - 30 * 9), 4000, 3000, 3000);
         Due.is("SEEN from the begin", 10000, x.by(0, 0, 8, 0, true, false, 1));
+    }
+
+    /** v, m and l know neither pace nor wave. */
+    private static void worths() {
+        RunForIt x = new RunForIt();
+        x.steps(1);
+        Due.law(x, "y5(1=1);vk+a+6(1=1);mk+a+7(1=1);lk+a+8(1=1);gk+a(d=3);g10(1=1)");
+        Due.rule(x, 0, "a7(d<9)");
+        Due.is("v", 600, x.by(0, 0, 5, 0, false, false, 0));
+        Due.is("v ahead of a STEP", 600, x.by(0, 0, 0, 0, false, false, 0));
+        Due.is("m", -700, x.by(0, 0, 6, 0, false, false, 0));
+        Due.is("m ahead of STEP n", -700, x.by(0, 0, 8, 0, false, false, 0));
+        Due.is("l", -800, x.by(0, 0, 9, 0, false, false, 0));
     }
 
     private static void near() {

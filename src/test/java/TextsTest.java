@@ -10,6 +10,8 @@ final class TextsTest {
         streetFaults();
         queue();
         clauses();
+        lengths();
+        onlyTheFirst();
         clauseFaults();
         depths();
         arithmetic();
@@ -168,6 +170,59 @@ final class TextsTest {
         Due.is("emptied", 0, x.count(5));
     }
 
+    /** Which n there are, on a tape that has more bytes. */
+    private static void lengths() {
+        RunForIt x = new RunForIt();
+        for (int n : new int[] {-1, 0, 1, 2, 239, 240, 241, 260, 261}) {
+            boolean is = n >= 1 && n <= 240;
+            fill(x);
+            Due.is("law " + n, is ? n < 3 ? -1000 - n : -2006 : -1, x.law(n));
+            Due.is("tape behind law " + n, is ? 0 : 260, x.count(5));
+            fill(x);
+            Due.is("rule " + n, is ? -1000 : -1, x.rule(0, n));
+            Due.is("tape behind rule " + n, is ? 0 : 260, x.count(5));
+        }
+        for (int n : new int[] {-1, 0, 1, 2, 16, 17, 79, 80, 81}) {
+            fill(x);
+            Due.is("street " + n, n >= 1 && n <= 80 ? -1000 : -1, x.street(n));
+            Due.is("tape behind street " + n, n >= 1 && n <= 80 ? 0 : 260, x.count(5));
+            fill(x);
+            Due.is("queue " + n, n >= 1 && n <= 16 ? -1000 : n == 0 ? 0 : -1, x.queue(n));
+            Due.is("tape behind queue " + n, n >= 0 && n <= 16 ? 0 : 260, x.count(5));
+        }
+        fill(x);
+        x.queue(0);
+        for (int i = 0; i < 12; i++) {
+            x.feed(0x61312831, 0x3d312900, 0, 0, 0);
+        }
+        Due.is("240 bytes of a tape of 240", -1007, x.rule(0, 240));
+    }
+
+    /** A tape of 260 bytes that begins with y12345678. */
+    private static void fill(RunForIt x) {
+        while (x.feed(0x79313233, 0x34353637, 0x38000000, 0, 0) != -1) {
+            continue;
+        }
+    }
+
+    /** What stands on the tape behind the first n bytes is no part of a TEXT. */
+    private static void onlyTheFirst() {
+        String[] streets = {"5f", "55f", "5f,5f", "5f,5f,5f", "5f5"};
+        int[] of = {1, 1, 3, 6, 2};
+        int[] due = {-1001, -1001, -1003, -1006, 5};
+        for (int i = 0; i < streets.length; i++) {
+            RunForIt x = new RunForIt();
+            Due.feed(x, streets[i]);
+            Due.is("street " + of[i] + " of " + streets[i], due[i], x.street(of[i]));
+        }
+        String law = "y12+t(t=[1]&1=1);y1(1=1)";
+        for (int n = 1; n <= law.length(); n++) {
+            RunForIt x = new RunForIt();
+            Due.feed(x, law);
+            Due.is("law " + n + " of " + law, n == 16 ? 1 : n == 24 ? 2 : -1000 - n, x.law(n));
+        }
+    }
+
     private static void clauseFaults() {
         RunForIt x = new RunForIt();
         String[] texts = {"", "a1(1=1)", "Y1(1=1)", "y", "y(1=1)", "y1", "y1(", "y1(1", "y1(1=", "y1(1=1", "y1(1=1)x",
@@ -246,10 +301,12 @@ final class TextsTest {
     private static void conditions() {
         String[] so = {"1=1", "1<2", "2>1", "t=3", "!1=2", "!!1=1", "(1=1)", "1=2|1=1", "1=1|1=2&1=2", "(1=1|1=2)&1=1",
             "!(1=1&1=2)", "!1=2&1=1", "1=2&1=1|1=1", "d=120&e=4&k=3&a=1", "1+1=2", "[1]=1", "0-1<0", "1=1|1/0=1",
-            "1=2&1/0=1|1=1", "(1=1|1/0=1)", "!(1=2&1/0=1)", "1=1&(1=1|1/0=1)", "1=2|1=2|1=2|1=1", "1=1&1=1&1=1"};
+            "1=2&1/0=1|1=1", "(1=1|1/0=1)", "!(1=2&1/0=1)", "1=1&(1=1|1/0=1)", "1=2|1=2|1=2|1=1", "1=1&1=1&1=1",
+            "1=1&".repeat(50) + "1=1", "1=2|".repeat(50) + "1=1", "1=1&1=2|".repeat(28) + "1=1"};
         String[] notSo = {"1=2", "1<1", "1>1", "2<1", "!1=1", "1=2|1=2", "1=1&1=2", "(1=1|1=2)&1=2", "1=1&1=2|1=2",
             "!(1=2|1=1)", "1/0=1", "1/0=0", "!1/0=1", "!(1/0=1)", "!!(1/0=1)", "1/0=1|1=1", "(1/0=1)|1=1",
-            "1=1&1/0=1|1=1", "!(1=1&1/0=1)|1=1", "1=2|1%0=1|1=1", "0=[5%0]", "0-1>0"};
+            "1=1&1/0=1|1=1", "!(1=1&1/0=1)|1=1", "1=2|1%0=1|1=1", "0=[5%0]", "0-1>0", "1=1&".repeat(50) + "1=2",
+            "1=2|".repeat(50) + "1=2"};
         for (String condition : so) {
             Due.is(condition, true, holds(condition));
         }
