@@ -342,8 +342,7 @@ public final class RunForIt {
         int rows = 0;
         int firstRow = -2;
         for (int row = 0; row < 8; row++) {
-            // the document looks for twos and threes, not for one who runs or none
-            if (Integer.bitCount(row) >= 2 && noneGains(row, pence, takes, worth)) {
+            if (noneGains(row, pence, takes, worth)) {
                 rows++;
                 firstRow = firstRow < 0 ? row : firstRow;
             }

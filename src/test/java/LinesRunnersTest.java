@@ -113,32 +113,92 @@ final class LinesRunnersTest {
         Due.is(told + ": the first", first, x.three(pence, takes, worth, 1));
     }
 
-    /** Rows in which two or three run: 3, 5, 6 and 7. */
+    /** All 8 rows count, how many run in them does not matter by itself. */
     private static void three() {
         RunForIt x = new RunForIt();
-        // it takes three: who leaves loses all; a third one gains by running
-        three(x, 5, 3, 20, 1, 7);
-        three(x, 20, 3, 20, 1, 7);
-        three(x, 21, 3, 20, 0, -2);
-        // it takes two: of two neither leaves; the third one gains by running if half is more than pence
-        three(x, 5, 2, 20, 1, 7);
-        three(x, 10, 2, 20, 4, 3);
-        three(x, 11, 2, 20, 3, 3);
-        three(x, 21, 2, 20, 0, -2);
-        three(x, 11, 2, 21, 4, 3);
-        three(x, 12, 2, 21, 3, 3);
-        // it takes one
-        three(x, 9, 1, 20, 1, 7);
-        three(x, 10, 1, 20, 4, 3);
-        three(x, 11, 1, 20, 0, -2);
-        three(x, 0, 1, 0, 4, 3);
-        three(x, 1, 1, 0, 0, -2);
-        three(x, 0, 3, 0, 4, 3);
+        // nobody gains anything, whatever he does: all 8 stand
+        three(x, 0, 1, 0, 8, 0);
+        three(x, 0, 2, 0, 8, 0);
+        three(x, 0, 3, 0, 8, 0);
+        // half of 1 is 0: all run
+        three(x, 0, 1, 1, 1, 7);
+        // who runs only loses: none runs
+        three(x, 1, 1, 0, 1, 0);
+        three(x, 1, 2, 0, 1, 0);
+        three(x, 1, 3, 0, 1, 0);
+        itTakesThree(x);
+        itTakesTwo(x);
+        itTakesOne(x);
         int[][] wrong = {{-1, 1, 1, 0}, {100, 1, 1, 0}, {1, 0, 1, 0}, {1, 4, 1, 0}, {1, 1, -1, 0}, {1, 1, 100, 0},
             {1, 1, 1, -1}, {1, 1, 1, 2}};
         for (int[] w : wrong) {
             Due.is("three", -1, x.three(w[0], w[1], w[2], w[3]));
         }
-        three(x, 99, 3, 99, 1, 7);
+        three(x, 99, 3, 99, 2, 0);
+        three(x, 99, 1, 99, 4, 0);
+        Due.is("all there are: none other than by how many run", 0, otherThanByHowMany(x));
+    }
+
+    /** Who leaves the three loses all; two of them wait in vain, so that none of them stays if it costs. */
+    private static void itTakesThree(RunForIt x) {
+        three(x, 5, 3, 20, 2, 0);
+        three(x, 20, 3, 20, 2, 0);
+        three(x, 21, 3, 20, 1, 0);
+        // one who runs in vain loses nothing by it, and two more have to come at once: 0, 1, 2, 4, 7
+        three(x, 0, 3, 20, 5, 0);
+    }
+
+    /** Of two neither leaves; the third one gains by running if half is more than pence. */
+    private static void itTakesTwo(RunForIt x) {
+        three(x, 0, 2, 20, 2, 0);
+        three(x, 5, 2, 20, 2, 0);
+        // none, any two, all
+        three(x, 10, 2, 20, 5, 0);
+        three(x, 11, 2, 20, 4, 0);
+        three(x, 20, 2, 20, 4, 0);
+        three(x, 21, 2, 20, 1, 0);
+        // half of 21 is 10
+        three(x, 11, 2, 21, 5, 0);
+        three(x, 12, 2, 21, 4, 0);
+    }
+
+    /** That none runs stands only if one alone would gain nothing by it. */
+    private static void itTakesOne(RunForIt x) {
+        three(x, 9, 1, 20, 1, 7);
+        three(x, 10, 1, 20, 7, 1);
+        three(x, 11, 1, 20, 3, 1);
+        three(x, 19, 1, 20, 3, 1);
+        three(x, 20, 1, 20, 4, 0);
+        three(x, 21, 1, 20, 1, 0);
+    }
+
+    /** Who runs is like any other who runs: by how many run all of a kind stand or none does. */
+    private static int otherThanByHowMany(RunForIt x) {
+        int others = 0;
+        for (int pence = 0; pence <= 99; pence++) {
+            for (int takes = 1; takes <= 3; takes++) {
+                for (int worth = 0; worth <= 99; worth++) {
+                    int rows = 0;
+                    int first = 8;
+                    for (int run = 3; run >= 0; run--) {
+                        if (stands(run, pence, takes, worth)) {
+                            rows += run == 0 || run == 3 ? 1 : 3;
+                            first = (1 << run) - 1;
+                        }
+                    }
+                    boolean like = x.three(pence, takes, worth, 0) == rows && x.three(pence, takes, worth, 1) == first;
+                    others += like ? 0 : 1;
+                }
+            }
+        }
+        return others;
+    }
+
+    private static boolean stands(int run, int pence, int takes, int worth) {
+        int ran = (run >= takes ? worth : 0) - pence;
+        int hadLeft = run - 1 >= takes ? worth / 2 : 0;
+        int stayed = run >= takes ? worth / 2 : 0;
+        int hadRun = (run + 1 >= takes ? worth : 0) - pence;
+        return (run == 0 || hadLeft <= ran) && (run == 3 || hadRun <= stayed);
     }
 }

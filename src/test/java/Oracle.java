@@ -858,7 +858,7 @@ final class Oracle {
             return -1;
         }
         List<Integer> rows = new ArrayList<>();
-        for (int row : new int[] {3, 5, 6, 7}) {
+        for (int row = 0; row < 8; row++) {
             boolean still = true;
             for (int person = 1; person <= 4; person *= 2) {
                 still &= paid(row ^ person, person, pence, takes, worth) <= paid(row, person, pence, takes, worth);
