@@ -236,7 +236,9 @@ public final class RunForIt {
             return NO_VALUE;
         }
         int place = placeOf(yards, breath, seen, ran);
-        course.seek(place);
+        if (course.turnTo(place)) {
+            course.search(0);
+        }
         if (what == 20) {
             return course.rowValue;
         }
@@ -1357,18 +1359,19 @@ public final class RunForIt {
             end(n);
         }
 
-        /** Finds the best of the rows from a place, unless it is known. */
-        void seek(int place) {
+        /** Gets ready for the rows from a place; false: the best of them is known. */
+        boolean turnTo(int place) {
             if (soughtAge == ride.age && soughtPlace == place) {
-                return;
+                return false;
             }
             soughtAge = ride.age;
             soughtPlace = place;
             rowValue = Long.MIN_VALUE;
             begin(0, place);
-            search(0);
+            return true;
         }
 
+        /** The best of the rows that are alike ahead of STEP t. */
         private void search(int t) {
             if (t >= ride.stepCount() || t >= MOST_BLIND || item(counts, t) == 0) {
                 end(t);
