@@ -2,6 +2,7 @@
 public final class RunForIt {
     public static final int NONE = -1;
 
+    /** Less than any VALUE: 99 times 100 for each of 8 STEPS is not half of it. */
     private static final long NO_VALUE = -2000000000000000000L;
     private static final int NO_PENCE = -1000000000;
     private static final int MAY_NOT_BE = -2;
@@ -1224,7 +1225,7 @@ public final class RunForIt {
             long most = worth(t, place, 0);
             int last = manner == NO_WAVES ? 3 : LAST_ACTION;
             for (int action = 1; action <= last; action++) {
-                long worth = isMove(action) ? worth(t, place, action) : Long.MIN_VALUE;
+                long worth = isMove(action) ? worth(t, place, action) : NO_VALUE;
                 if (worth > most) {
                     most = worth;
                     chosen = action;
@@ -1244,7 +1245,7 @@ public final class RunForIt {
             return item(marks, t * PLACES + place) & 7;
         }
 
-        /** The VALUE of an ACTION with BEST behind it; Long.MIN_VALUE: it may not be. */
+        /** The VALUE of an ACTION with BEST behind it; NO_VALUE: it may not be. */
         private long worth(int t, int place, int action) {
             long rest = hundreds(ride.stepCount() - t - 1);
             if (action == 0) {
@@ -1252,7 +1253,7 @@ public final class RunForIt {
             }
             int next = ride.behind(t, place, action);
             if (next < 0) {
-                return Long.MIN_VALUE;
+                return NO_VALUE;
             }
             int tenths = ride.tenthsSeen(t, place, action);
             long total = 0;
@@ -1366,7 +1367,7 @@ public final class RunForIt {
             }
             soughtAge = ride.age;
             soughtPlace = place;
-            rowValue = Long.MIN_VALUE;
+            rowValue = NO_VALUE;
             begin(0, place);
             return true;
         }

@@ -10,6 +10,8 @@ final class BestTest {
         ends();
         likeActions();
         tenths();
+        oneTenth();
+        worthsKnowNoPace();
         stepOfTheWorths();
         greatest();
         changes();
@@ -73,6 +75,33 @@ final class BestTest {
         Due.is("last STEP from 6", not, x.best(1, 6, 9, false, false, 0));
         Due.is("last STEP from 6, SEEN", seen, x.best(1, 6, 9, true, false, 0));
         Due.is("from 11", 4 * (100 * -20 + 9 * seen) + 6 * (300 * -10 + 7 * not), x.best(0, 11, 9, false, false, 0));
+    }
+
+    /** One tenth and nine, of SEEN and of going. */
+    private static void oneTenth() {
+        RunForIt x = new RunForIt();
+        x.steps(1);
+        for (int s : new int[] {0, 1, 9, 10}) {
+            Due.law(x, "y9(1=1);s" + s + "(1=1);v10+z*40(1=1);l99(1=1)");
+            Due.is("caught, SEEN by " + s, 10L * (s * 50 + (10 - s) * 10), x.best(0, 9, 0, false, false, 0));
+            Due.law(x, "s" + s + "(1=1);m10+z*40(1=1);l99(1=1)");
+            Due.is("MISSED, SEEN by " + s, -10L * (s * 50 + (10 - s) * 10), x.best(0, 9, 0, false, false, 0));
+            Due.law(x, "g" + s + "(1=1);m10+t*40(1=1);l99(1=1)");
+            Due.is("goes by " + s, -10L * (s * 10 + (10 - s) * 50), x.best(0, 9, 0, false, false, 0));
+        }
+    }
+
+    /** v, m and l know neither pace nor wave, behind which ACTION ever. */
+    private static void worthsKnowNoPace() {
+        RunForIt x = new RunForIt();
+        x.steps(1);
+        Due.law(x, "w9(k<3);w9(a=0);y9(d<10);v20+k+a(1=1);m20+k+a(1=1);l99(1=1);g10(d<12)");
+        Due.is("ACTION", 7, x.best(0, 9, 8, false, false, 1));
+        Due.is("v", 2000, x.best(0, 9, 8, false, false, 0));
+        Due.is("m in the STEP", -2000, x.best(0, 11, 8, false, false, 0));
+        Due.is("m ahead of STEP n", -2000, x.best(0, 12, 8, false, false, 0));
+        Due.law(x, "w9(1=1);l20+k+a(1=1)");
+        Due.is("l", -2000, x.best(0, 9, 8, false, false, 0));
     }
 
     /** v and m with t as it was, with n ahead of STEP n; of the STATE as it is then. */
@@ -194,6 +223,32 @@ final class BestTest {
         Due.law(x, "g10(1=1);m10-p*3(t=0);l99(1=1)");
         // in STEP 0 it goes at a cost of 7; with BOARDING 1 more not before STEP 1, where m is 0
         Due.is("p of the same QUEUE", 700, x.more(5, 0, false, false, 1));
+        wavesAndPace(x);
+        longerBoarding(x);
+    }
+
+    private static void wavesAndPace(RunForIt x) {
+        Due.law(x, "y9(k=3&a=0);y9(a=1&e=1);v5(1=1)");
+        Due.is("without waves he may run", 0, x.more(5, 0, false, false, 0));
+        Due.is("without waves he may run", 0, x.more(5, 1, false, false, 0));
+        Due.law(x, "y9(k=1&a=1);v5(1=1);m7(1=1);l2(1=1)");
+        Due.is("without a wave he lets it go", 700, x.more(5, 0, false, false, 0));
+    }
+
+    /** With B 2 it goes in STEP 1, with a STEP more in STEP 2, with two more in STEP 3. */
+    private static void longerBoarding(RunForIt x) {
+        x.steps(4);
+        Due.queue(x, "c");
+        Due.law(x, "g10(1=1);m90-t*30(1=1);l99(1=1)");
+        Due.is("one STEP more, not two", 3000000000L, x.more(5, 0, false, false, 1));
+        Due.law(x, "g10(1=1);m90-t*20(1=1);l99(1=1)");
+        Due.is("B as it was behind that", -7000000000L, x.best(0, 5, 0, false, false, 0));
+        Due.is("it does not go in STEP 0", 0, x.after(0, 5, 0, false, false, 1, 3));
+        Due.is("and does in STEP 1", 10, x.after(1, 5, 0, false, false, 1, 3));
+        Due.queue(x, "");
+        Due.is("B 0 and 1 are alike", 0, x.more(5, 0, false, false, 1));
+        Due.queue(x, "ppppppppp");
+        Due.is("beyond the last STEP", 0, x.more(5, 0, false, false, 1));
     }
 
     private static void wrongInputs() {

@@ -44,6 +44,14 @@ final class CornerBlindTest {
         Due.is("no stop for him", -(3 + 20 + 0) * 100000000L, x.corner(40, 0, 0, 1));
         Due.law(x, "y10(1=1);g5(t=0);v50(1=1);m3+t*5+d(1=1);l99(1=1)");
         Due.is("half of it", 50000000L * (50 - 33), x.corner(40, 0, 20, 1));
+        for (int g : new int[] {1, 9}) {
+            Due.law(x, "y10(1=1);g" + g + "(t=0);v50(1=1);m3+t*5+d(1=1);l99(1=1)");
+            Due.is("gone by " + g, 10000000L * ((10 - g) * 50 - g * 33), x.corner(40, 0, 20, 1));
+        }
+        Due.law(x, "y10(1=1);v20+t(1=1);l99(1=1)");
+        for (int t = 0; t < 4; t++) {
+            Due.is("caught in STEP " + t, (20 + t) * 100000000L, x.corner(10 * t + 10, 0, 0, 1));
+        }
     }
 
     /** Behind the going nobody sees him: SEEN stays, and what hangs on it. */

@@ -49,6 +49,12 @@ final class LinesRunnersTest {
         Due.is("that COLOUR", 1, x.which(2, 2, 1, 0, 0));
         Due.is("none of the COLOUR", -2, x.which(0, 3, 1, 20, 0));
         Due.is("never there", -2, x.which(4, 1, 2, 20, 0));
+        x.line(7, 0, 1, 99, 1);
+        Due.is("COLOUR 0, hour 0, from 99", 1, x.which(7, 0, 0, 99, 0));
+        Due.is("read from 98", -2, x.which(7, 0, 0, 98, 0));
+        Due.is("not in hour 1", -2, x.which(7, 0, 1, 99, 0));
+        x.line(6, 3, 16777215, 0, 99);
+        Due.is("in every hour, from 0", 24, everyHour(x));
         x.line(0, 1, 2, 10, 10);
         Due.is("in place of the one before", 4, x.which(0, 1, 1, 20, 1));
         int[][] wrong = {{-1, 0, 0, 0, 0}, {8, 0, 0, 0, 0}, {5, 1, 1, 20, 0}, {0, -1, 0, 0, 0}, {0, 4, 0, 0, 0},
@@ -56,6 +62,14 @@ final class LinesRunnersTest {
         for (int[] w : wrong) {
             Due.is("which", -1, x.which(w[0], w[1], w[2], w[3], w[4]));
         }
+    }
+
+    private static int everyHour(RunForIt x) {
+        int hours = 0;
+        for (int hour = 0; hour < 24; hour++) {
+            hours += x.which(6, 3, hour, 0, 0) == 1 && x.which(6, 3, hour, 0, 1) == 1 ? 1 : 0;
+        }
+        return hours;
     }
 
     private static void runners() {
@@ -98,6 +112,17 @@ final class LinesRunnersTest {
         Due.is("of like ones the fewest", 10, x.wait(5, -1));
         x.runner(3, 120, 40, 20);
         Due.is("one more", 120, x.wait(5, -1));
+        RunForIt one = new RunForIt();
+        Due.is("no RUNNERS: 0 YARDS", 0, one.wait(5, -1));
+        one.runner(0, 1, 40, 9);
+        Due.is("with 1 YARD left", 1, one.wait(8, -1));
+        Due.is("one STEP, rounded up", 1, one.wait(8, 1));
+        Due.is("it comes to nothing: the fewest", 0, one.wait(9, -1));
+        one.runner(9, 120, 40, 999);
+        Due.is("the last of them with 120", 120, one.wait(8, -1));
+        Due.is("three STEPS just", 9 + 999 - 4 * 8, one.wait(8, 120));
+        one.runner(9, 120, 39, 999);
+        Due.is("four STEPS, rounded up", 9 + 999 - 5 * 8, one.wait(8, 120));
         for (int what : new int[] {-2, 121}) {
             Due.is("wait", -1000000000, x.wait(5, what));
         }

@@ -7,6 +7,7 @@ final class LogTest {
         seeds();
         ends();
         draws();
+        drawsAtTheEdges();
         log();
         falls();
         wrong();
@@ -43,8 +44,15 @@ final class LogTest {
         Due.is("MISSED ahead of STEP n", 2, x.drawn(1, 16, 5, false, false));
         Due.is("three STEPS", 3, x.log(0));
         Due.is("one YARD", 1, x.log(23));
-        Due.is("let go", 3, x.drawn(1, 15, 0, false, false));
+        Due.is("let go", 3, x.drawn(1, 15, 0, true, false));
         Due.is("a STEP of it", 1, x.log(0));
+        Due.is("its ACTION", 0, x.log(10));
+        Due.is("YARDS ahead of it", 15, x.log(20));
+        Due.is("YARDS behind it", 15, x.log(21));
+        Due.is("SEEN ahead of it", 1, x.log(30));
+        Due.is("SEEN behind it", 1, x.log(31));
+        Due.is("nothing behind that", -1, x.log(22));
+        Due.is("nothing behind that", -1, x.log(32));
         Due.is("caught at once", 1, x.drawn(1, 0, 5, true, false));
         Due.is("no STEP", 0, x.log(0));
         Due.is("ended", 1, x.log(1));
@@ -105,6 +113,36 @@ final class LogTest {
         Due.is("two numbers", b, x.count(6));
         x.drawn(0, 9, 9, false, false);
         Due.is("X goes on", true, x.count(6) != b && x.count(6) != 1);
+    }
+
+    /** Modulo 65536: what X becomes at the edges, by hand; a number is drawn for s and g of 0 and of 10, too. */
+    private static void drawsAtTheEdges() {
+        RunForIt x = new RunForIt();
+        x.steps(1);
+        Due.rule(x, 0, "a1(1=1)");
+        int[] seeds = {0, 1, 65535, 32768, 13};
+        int[] next = {13849, 39022, 54212, 46617, 13418};
+        for (int i = 0; i < seeds.length; i++) {
+            x.seed(seeds[i]);
+            Due.is("one number of " + seeds[i], 2, x.drawn(0, 9, 9, true, false));
+            Due.is("X behind " + seeds[i], next[i], x.count(6));
+            Due.is("X behind " + seeds[i], next[i], next(seeds[i]));
+        }
+        x.steps(2);
+        for (int seed = 0; seed < 40; seed++) {
+            x.seed(seed);
+            Due.law(x, "s10(1=1);g0(1=1)");
+            x.drawn(0, 9, 9, false, false);
+            Due.is("10 of 10: SEEN", 1, x.log(31));
+            Due.is("0 of 10: stays", 2, x.log(0));
+            Due.is("three numbers", next(next(next(seed))), x.count(6));
+            x.seed(seed);
+            Due.law(x, "s0(1=1);g10(1=1)");
+            x.drawn(0, 9, 9, false, false);
+            Due.is("0 of 10: not SEEN", 0, x.log(31));
+            Due.is("10 of 10: goes", 1, x.log(0));
+            Due.is("two numbers", next(next(seed)), x.count(6));
+        }
     }
 
     private static void log() {

@@ -28,6 +28,18 @@ final class NewObjectTest {
         Due.is("no LOG", 0, x.log(1));
         Due.is("nothing KEPT", false, x.undo());
         Due.is("NONE", -1, RunForIt.NONE);
+        lastCall();
         Due.end();
+    }
+
+    /** 512 calls are promised: what the last of them answers, behind as many changes as there can be. */
+    private static void lastCall() {
+        RunForIt x = new RunForIt();
+        x.feed(0x7639392d, 0x6e28313d, 0x31290000, 0, 0);
+        Due.is("v99-n(1=1)", 1, x.law(10));
+        for (int call = 3; call <= 511; call++) {
+            x.steps(call % 8 + 1);
+        }
+        Due.is("the 512th call", 91, x.best(8, 0, 0, false, false, 0));
     }
 }

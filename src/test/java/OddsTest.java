@@ -40,6 +40,13 @@ final class OddsTest {
         Due.queue(x, "");
         Due.law(x, "g1(1=1)");
         leaves(x, 0, 1, 10);
+        long ninths = 1;
+        long tens = 10;
+        for (int j = 0; j < 8; j++) {
+            leaves(x, j, ninths, tens);
+            ninths *= 9;
+            tens *= 10;
+        }
         leaves(x, 7, 4782969, 100000000);
         leaves(x, 8, 43046721, 100000000);
         Due.law(x, "g3(d=0)");

@@ -10,6 +10,8 @@ final class RulesTest {
         actions();
         shares();
         seenOnTheWay();
+        seenInAnyStep();
+        oneTenth();
         worths();
         near();
         wrongInputs();
@@ -86,6 +88,42 @@ final class RulesTest {
         // 4 tenths: caught; else 5 tenths MISSED, else let go
         by("SEEN or not", x, 0, 8, 0, 100L * (40 * 50 - 30 * 20 - 30 * 9), 4000, 3000, 3000);
         Due.is("SEEN from the begin", 10000, x.by(0, 0, 8, 0, true, false, 1));
+    }
+
+    /** As many STEPS as there can be; in each of them he may be SEEN for the first time, at a BREATH of its own. */
+    private static void seenInAnyStep() {
+        RunForIt x = new RunForIt();
+        x.steps(8);
+        Due.law(x, "s1(1=1);y1(z=0);w1(z=1);m10(z=0);m20+e(1=1)");
+        Due.rule(x, 0, "a1(1=1)");
+        // SEEN in STEP j by 1 tenth: 98 - j YARDS left, and 7 - j STEPS more, each of which takes 1 of 9 BREATH
+        long all = 100000000;
+        long share = all / 10;
+        long cost = 0;
+        long yards = 0;
+        for (int j = 0; j < 8; j++) {
+            cost += share * (20 + 9 - (7 - j));
+            yards += share * (98 - j);
+            share = share / 10 * 9;
+        }
+        cost += 43046721L * 10;
+        yards += 43046721L * 91;
+        Due.is("VALUE", -cost * all, x.by(0, 0, 99, 9, false, false, 0));
+        Due.is("MISSED", all * all, x.by(0, 0, 99, 9, false, false, 2));
+        Due.is("near", true, x.near(0, 99, 9, false, false, 0) * all == yards * x.near(0, 99, 9, false, false, 1));
+    }
+
+    private static void oneTenth() {
+        RunForIt x = new RunForIt();
+        x.steps(1);
+        Due.rule(x, 0, "a1(1=1)");
+        for (int tenths : new int[] {1, 9}) {
+            Due.law(x, "s" + tenths + "(1=1);m20+z*30(1=1)");
+            Due.is("SEEN by " + tenths, -10L * (tenths * 50 + (10 - tenths) * 20), x.by(0, 0, 9, 9, false, false, 0));
+            Due.law(x, "g" + tenths + "(1=1);m20+t*30(1=1)");
+            Due.is("goes by " + tenths, -10L * (tenths * 20 + (10 - tenths) * 50), x.by(0, 0, 9, 9, false, false, 0));
+            Due.is("surely MISSED", 100, x.by(0, 0, 9, 9, false, false, 2));
+        }
     }
 
     /** v, m and l know neither pace nor wave. */
