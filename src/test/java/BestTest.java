@@ -82,7 +82,7 @@ final class BestTest {
         RunForIt x = new RunForIt();
         x.steps(1);
         for (int s : new int[] {0, 1, 9, 10}) {
-            Due.law(x, "y9(1=1);s" + s + "(1=1);v10+z*40(1=1);l99(1=1)");
+            Due.law(x, "y9(1=1);s" + s + "(1=1);v10+z*40+t*5(1=1);l99(1=1);g5(1=1)");
             Due.is("caught, SEEN by " + s, 10L * (s * 50 + (10 - s) * 10), x.best(0, 9, 0, false, false, 0));
             Due.law(x, "s" + s + "(1=1);m10+z*40(1=1);l99(1=1)");
             Due.is("MISSED, SEEN by " + s, -10L * (s * 50 + (10 - s) * 10), x.best(0, 9, 0, false, false, 0));

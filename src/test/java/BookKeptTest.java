@@ -50,6 +50,7 @@ final class BookKeptTest {
         Due.is("3 * 7 * 7 against 4 * 6 * 6", 1, x.fits(2, 3, 2, 4));
         Due.is("3 * 7 * 7 against 1 * 9 * 9", 1, x.fits(5, 3, 5, 1));
         Due.is("1 * 9 * 9 against 7 * 3 * 3", 1, x.fits(5, 1, 5, 7));
+        Due.is("6 * 4 * 4 against 1 * 9 * 9", 1, x.fits(5, 6, 5, 1));
         Due.is("0 of 10 for what was: less", 2, x.fits(0, 3, 5, 5));
         Due.is("10 of 10 for what was not: less", 2, x.fits(5, 10, 5, 5));
         Due.is("sure of either: 0, alike", 0, x.fits(10, 0, 0, 10));

@@ -48,6 +48,10 @@ final class CornerBlindTest {
             Due.law(x, "y10(1=1);g" + g + "(t=0);v50(1=1);m3+t*5+d(1=1);l99(1=1)");
             Due.is("gone by " + g, 10000000L * ((10 - g) * 50 - g * 33), x.corner(40, 0, 20, 1));
         }
+        for (int s : new int[] {1, 9}) {
+            Due.law(x, "y10(1=1);s" + s + "(1=1);g5(1=1);v20+z*10+t(1=1);l99(1=1)");
+            Due.is("caught, SEEN by " + s, 10000000L * (s * 30 + (10 - s) * 20), x.corner(10, 0, 0, 1));
+        }
         Due.law(x, "y10(1=1);v20+t(1=1);l99(1=1)");
         for (int t = 0; t < 4; t++) {
             Due.is("caught in STEP " + t, (20 + t) * 100000000L, x.corner(10 * t + 10, 0, 0, 1));
@@ -110,6 +114,8 @@ final class CornerBlindTest {
         Due.is("none may be: the least", 1, x.corner(5, 0, 1, 0));
         Due.law(x, "y9(k=3&a=1);v5(1=1)");
         Due.is("the last", 7, x.corner(5, 0, 1, 0));
+        Due.law(x, "y9(1=1);wk+a(1=1);v50+e(1=1);m9(1=1)");
+        Due.is("the first, the others a little worse", 1, x.corner(9, 9, 1, 0));
     }
 
     private static void blind() {
