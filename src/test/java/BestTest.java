@@ -14,6 +14,7 @@ final class BestTest {
         worthsKnowNoPace();
         stepOfTheWorths();
         greatest();
+        eachStateByItself();
         changes();
         changesBehindMore();
         point();
@@ -132,6 +133,26 @@ final class BestTest {
         Due.is("and let go", 0, x.best(0, 120, 0, false, false, 1));
     }
 
+    /** What is known of a STATE is not taken for another one: nothing but letting go may be, each at a cost of its own. */
+    private static void eachStateByItself() {
+        RunForIt x = new RunForIt();
+        x.steps(8);
+        Due.law(x, "w9(1=1);l[d*7+e*5+z*3+r*11+t*13]%97(1=1)");
+        for (int yards : new int[] {1, 2, 119, 120}) {
+            for (int i = 0; i < 12 * 8; i++) {
+                int t = i % 8;
+                int breath = i / 8 / 4 * 4;
+                int seen = i / 8 % 2;
+                int ran = i / 16 % 2;
+                long due = -((yards * 7 + breath * 5 + seen * 3 + ran * 11 + t * 13) % 97);
+                for (int left = t; left < 8; left++) {
+                    due *= 100;
+                }
+                Due.is("STEP " + t + ", " + yards + " YARDS", due, x.best(t, yards, breath, seen == 1, ran == 1, 0));
+            }
+        }
+    }
+
     /** What is known falls with all by which it was reckoned. */
     private static void changes() {
         RunForIt x = new RunForIt();
@@ -233,6 +254,8 @@ final class BestTest {
         Due.is("without waves he may run", 0, x.more(5, 1, false, false, 0));
         Due.law(x, "y9(k=1&a=1);v5(1=1);m7(1=1);l2(1=1)");
         Due.is("without a wave he lets it go", 700, x.more(5, 0, false, false, 0));
+        Due.is("with a STEP more he waves as before", 0, x.more(5, 0, false, false, 1));
+        Due.is("and a WAVE is worth as much behind that", 700, x.more(5, 0, false, false, 0));
     }
 
     /** With B 2 it goes in STEP 1, with a STEP more in STEP 2, with two more in STEP 3. */

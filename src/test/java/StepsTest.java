@@ -25,6 +25,10 @@ final class StepsTest {
         }
         Due.is("SEEN it takes less", 1, x.may(0, 1, 2, true, false, 1));
         Due.is("to let it go always may be", 1, x.may(0, 1, 0, false, false, 0));
+        Due.law(x, "w9(1=1)");
+        Due.is("to let it go always may be, whatever w is", 1, x.may(5, 1, 0, false, false, 0));
+        Due.is("nothing else", 0, x.may(5, 1, 8, false, false, 1));
+        Due.law(x, "w3*k+a*2-z(1=1)");
         Due.is("to where nothing is left", 1, x.may(0, 0, 3, false, false, 1));
         Due.is("to where nothing is left", 0, x.after(0, 0, 3, false, false, 1, 1));
         Due.is("with 0 YARDS, too", 0, x.may(0, 0, 2, false, false, 1));
